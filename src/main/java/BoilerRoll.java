@@ -302,7 +302,7 @@ public final class BoilerRoll {
     }
 
     private PartView partOn(int vessel, int part, int day, int known) {
-        return opened(vessel, day, known) ? view.partAt(part) : null;
+        return asked(vessel, day, known) && view.open(roll, vessel, day, known) ? view.partAt(part) : null;
     }
 
     private void listVessel(int vessel, int from, int to) {
@@ -641,7 +641,7 @@ public final class BoilerRoll {
                 return FULL;
             }
             begin(VESSEL).add(owner).add(safety).add(makes).add(day);
-            return done(vesselCount);
+            return noted(lastAct(), vesselCount);
         }
 
         int enterPart(int vessel, int kind, int strength, int radius, int thickness, int share) {
@@ -656,7 +656,7 @@ public final class BoilerRoll {
                 return FULL;
             }
             begin(PART).add(vessel).add(kind).add(strength).add(radius).add(thickness).add(share);
-            return done(at.kinds.size());
+            return noted(lastAct(), at.kinds.size());
         }
 
         int enterShape(int vessel, int part, int spots, int wear, int many) {
@@ -675,7 +675,7 @@ public final class BoilerRoll {
                 return FULL;
             }
             begin(SHAPE).add(vessel).add(part).add(spots).add(wear).add(many);
-            return done(spots);
+            return noted(lastAct(), spots);
         }
 
         /** The twelve tenths stand in a row from a place on. */
@@ -697,7 +697,7 @@ public final class BoilerRoll {
                 image.add(told);
                 measured += told == UNMEASURED ? 0 : 1;
             }
-            return done(measured);
+            return noted(lastAct(), measured);
         }
 
         int enterPatch(int vessel, int part, int strength, int thickness, int share, int day) {
@@ -712,7 +712,7 @@ public final class BoilerRoll {
                 return FULL;
             }
             begin(PATCH).add(vessel).add(part).add(strength).add(thickness).add(share).add(day);
-            return done(1);
+            return noted(lastAct(), 1);
         }
 
         int enterPlate(int vessel, int part, int thickness, int day) {
@@ -727,7 +727,7 @@ public final class BoilerRoll {
                 return FULL;
             }
             begin(PLATE).add(vessel).add(part).add(thickness).add(day);
-            return done(1);
+            return noted(lastAct(), 1);
         }
 
         int enterPlug(int vessel, int part, int n, int day) {
@@ -742,7 +742,7 @@ public final class BoilerRoll {
                 return FULL;
             }
             begin(PLUG).add(vessel).add(part).add(n).add(day);
-            return done(n);
+            return noted(lastAct(), n);
         }
 
         int enterValve(int vessel, int setting, int passing, int day) {
@@ -757,7 +757,7 @@ public final class BoilerRoll {
                 return FULL;
             }
             begin(VALVE).add(vessel).add(setting).add(passing).add(day);
-            return done(at.valveDays.size());
+            return noted(lastAct(), at.valveDays.size());
         }
 
         int enterSet(int vessel, int valve, int setting, int day) {
@@ -772,7 +772,7 @@ public final class BoilerRoll {
                 return FULL;
             }
             begin(SET).add(vessel).add(valve).add(setting).add(day);
-            return done(setting);
+            return noted(lastAct(), setting);
         }
 
         int enterPaper(int vessel, int kind, int who, int found, int day) {
@@ -788,7 +788,7 @@ public final class BoilerRoll {
                 return FULL;
             }
             begin(PAPER).add(vessel).add(kind).add(who).add(found).add(day);
-            return done(at.papers + 1);
+            return noted(lastAct(), at.papers + 1);
         }
 
         int enterRule(int kind, int young, int old) {
@@ -799,12 +799,12 @@ public final class BoilerRoll {
                 return FULL;
             }
             begin(RULE).add(kind).add(young).add(old);
-            return done(rules + 1);
+            return noted(lastAct(), rules + 1);
         }
 
         /** What was noted is noted anew from the first act on: so nothing of the last one stays. */
         int takeBack() {
-            int act = places.size() - 1;
+            int act = lastAct();
             if (act < kept) {
                 return NONE;
             }
@@ -816,7 +816,7 @@ public final class BoilerRoll {
             vesselCount = 0;
             rules = 0;
             for (int i = 0; i < act; i++) {
-                note(i);
+                noted(i, code);
             }
             return code;
         }
@@ -912,37 +912,30 @@ public final class BoilerRoll {
             return image.add(code);
         }
 
-        private int done(int answer) {
-            note(places.size() - 1);
-            return answer;
+        private int lastAct() {
+            return places.size() - 1;
         }
 
-        private void note(int act) {
+        /** Notes an act that stands and hands on the answer of the call that entered it. */
+        private int noted(int act, int answer) {
             int place = places.at(act);
             int code = image.at(place);
-            if (code == VESSEL) {
-                noteVessel(place, entryDays.at(act));
-            } else if (code == RULE) {
+            if (code == RULE) {
                 rules++;
-            } else {
-                Vessel at = vesselAt(image.at(place + 1));
-                if (at != null) {
-                    at.note(image, place);
-                }
+                return answer;
             }
-        }
-
-        private void noteVessel(int place, int enteredOn) {
-            if (vesselCount < 0 || vesselCount >= vessels.length) {
-                return;
+            if (code == VESSEL && vesselCount >= 0 && vesselCount < vessels.length) {
+                Vessel fresh = vessels[vesselCount] == null ? new Vessel() : vessels[vesselCount];
+                fresh.begin(image, place, entryDays.at(act));
+                vessels[vesselCount] = fresh;
+                vesselCount++;
+                return answer;
             }
-            Vessel at = vessels[vesselCount];
-            if (at == null) {
-                at = new Vessel();
-                vessels[vesselCount] = at;
+            Vessel at = vesselAt(image.at(place + 1));
+            if (at != null) {
+                at.note(image, place);
             }
-            at.begin(image, place, enteredOn);
-            vesselCount++;
+            return answer;
         }
     }
 

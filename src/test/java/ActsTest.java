@@ -300,6 +300,7 @@ public final class ActsTest {
         due("8: spot 2 of it", x.thick(0, 0, 2, 100, 100), 55);
         x.sheet(2, 0);
         told(x, "8: a missing one", x.measure(0, 0, 100), 0);
+        told(x, "8: also of nothing the sheet is gone", x.measure(0, 0, 100), STATE);
         due("8: it is an act", x.count(2, 0), 7);
         due("8: its code", x.undo(), 4);
     }
@@ -426,6 +427,9 @@ public final class ActsTest {
         told(x, "16: a part's number", x.part(0, 0, 1, 1, 1, 1), 0);
         told(x, "16: a part of another kind", x.plug(0, 0, 0, 10), NONE);
         told(x, "16: its shape is the first", x.shape(0, 0, 1, 0, 2), RANGE);
+        x.undo();
+        told(x, "16: tubes in place of tubes of many", x.part(0, 2, 1, 1, 1, 1), 0);
+        told(x, "16: they are 1", x.plug(0, 0, 2, 10), RANGE);
         told(x, "16: a valve's number", x.valve(0, 9, 9, 10), 0);
         x.pass(11);
         x.valve(0, 9, 9, 10);

@@ -76,6 +76,20 @@ public final class HoldsTest {
         due("20: as thick is no doubt, the other is", x.doubts(0, 0, 400, 500), 1);
         file(x, 0, 0, 400, 471, 510);
         due("20: both", x.doubts(0, 0, 400, 500), 2);
+        due("20: no part", x.doubts(0, 1, 400, 500), NONE);
+        due("20: no vessel", x.doubts(1, 0, 400, 500), NONE);
+        due("20: ahead of built", x.doubts(0, 0, 99, 500), NONE);
+        due("20: not known", x.doubts(0, 0, 400, 99), NONE);
+        due("20: day 40001", x.doubts(0, 0, LAST + 1, 500), NONE);
+        due("20: known -1", x.doubts(0, 0, 400, -1), NONE);
+        BoilerRoll y = new BoilerRoll();
+        y.pass(10);
+        y.vessel(1, 1, 0, 0);
+        y.part(0, 0, 1000, 10, 100, 1000);
+        file(y, 0, 0, 2, 99);
+        due("19: half a tenth a day, cut down", y.thick(0, 0, 0, 3, 10), 98);
+        due("19: two days", y.thick(0, 0, 0, 4, 10), 98);
+        due("19: three days", y.thick(0, 0, 0, 5, 10), 97);
     }
 
     private static void plates() {
@@ -177,6 +191,16 @@ public final class HoldsTest {
         x.plug(0, 2, 1, 14);
         due("21: the last plug is of the greatest day", x.bears(0, 2, 16, 20), 0);
         due("21: an earlier day", x.bears(0, 2, 14, 20), 1000000);
+        x.plug(0, 2, 0, 14);
+        due("21: of one day the last plug", x.bears(0, 2, 14, 20), 4808);
+        x.plate(0, 3, 999, 15);
+        x.patch(0, 3, 1, 1, 1, 13);
+        due("21: a patch ahead of the plate, entered behind it", x.bears(0, 3, 15, 20), 2163);
+        due("21: on its days", x.bears(0, 3, 14, 20), 0);
+        x.patch(0, 4, 1, 1, 1, 15);
+        x.plate(0, 4, 999, 13);
+        due("21: a plate ahead of the patch, entered behind it", x.bears(0, 4, 15, 20), 0);
+        due("21: ahead of the patch", x.bears(0, 4, 14, 20), 4808);
     }
 
     private static void holds() {
@@ -212,6 +236,11 @@ public final class HoldsTest {
         due("23: of one day the last", x.holds(0, 0, 18, 20), 80);
         x.set(0, 0, 65, 15);
         due("23: a set of the valve's day", x.holds(0, 1, 15, 20), 60);
+        x.set(0, 2, 30, 13);
+        due("23: a set behind a valve that is not there yet", x.holds(0, 1, 13, 20), 30);
+        due("23: it touches no other", x.holds(0, 0, 13, 20), 70);
+        due("23: ahead of it", x.holds(0, 1, 12, 20), 60);
+        x.undo();
         due("23: tubes", x.holds(0, 3, 10, 10), 31);
         x.plug(0, 1, 7, 13);
         x.plug(0, 0, 1, 12);
@@ -448,6 +477,17 @@ public final class HoldsTest {
         x.paper(0, 3, 0, 0, 1015);
         due("27: up to a stop", x.until(0, 1000, LAST), 1014);
         due("27: as known ahead", x.until(0, 1000, LAST - 1), 1400);
+        x.undo();
+        file(x, 0, 0, 1030, 99);
+        due("27: up to a measure", x.until(0, 1000, LAST), 1029);
+        x.undo();
+        x.plate(0, 0, 200, 1040);
+        due("27: up to a mend", x.until(0, 1000, LAST), 1039);
+        x.paper(0, 2, 0, 0, 1040);
+        due("27: over a tested mend", x.until(0, 1000, LAST), 1400);
+        x.rule(0, 50, 60);
+        x.paper(0, 0, 0, 0, 1045);
+        due("27: a paper puts the due day off", x.until(0, 1000, LAST), 1095);
     }
 
     private static void when() {
@@ -466,6 +506,12 @@ public final class HoldsTest {
         x.set(0, 0, 9950, 1002);
         due("28: the greatest setting then", x.when(0, 0, 1000, 1200), 1002);
         due("28: as known", x.when(0, 0, 1000, 1199), 1021);
+        x.undo();
+        file(x, 0, 0, 1010, 79);
+        due("28: on the day of a measure", x.when(0, 0, 1000, 1200), 1010);
+        x.undo();
+        x.plate(0, 0, 100, 1015);
+        due("28: a new plate puts it off", x.when(0, 0, 1000, 1200), 1036);
         BoilerRoll y = new BoilerRoll();
         y.pass(500);
         y.vessel(0, 1, 0, 0);

@@ -216,6 +216,9 @@ public final class ImageTest {
         refuse("a measure of 10001", n, joined(tubes, 4, 0, 0, 5, 10001, -1, -1, -1, -1, -1, -1, -1, -1, -1, -1, -1));
         refuse("a measure of no spot", n, joined(tubes, 4, 0, 0, 5, 1, -1, -1, -1, -1, -1, -1, -1, -1, -1, -1, 0));
         refuse("a measure of no spot, -2", n, joined(tubes, 4, 0, 0, 5, 1, -2, -1, -1, -1, -1, -1, -1, -1, -1, -1, -1));
+        refuse("a measure of the first that is no spot", n, joined(tubes, 4, 0, 0, 5, 1, 0, -1, -1, -1, -1, -1, -1, -1, -1, -1, -1));
+        refuse("a measure of nothing of no part", n, joined(tubes, 4, 0, 1, 5, -1, -1, -1, -1, -1, -1, -1, -1, -1, -1, -1, -1));
+        refuse("a measure of nothing of no vessel", n, joined(tubes, 4, 1, 0, 5, -1, -1, -1, -1, -1, -1, -1, -1, -1, -1, -1, -1));
         refuse("a measure of a day to come", n, joined(tubes, 4, 0, 0, 6, 1, -1, -1, -1, -1, -1, -1, -1, -1, -1, -1, -1));
         refuse("a measure of no part", n, joined(tubes, 4, 0, 1, 5, 1, -1, -1, -1, -1, -1, -1, -1, -1, -1, -1, -1));
         refuse("a patch", n, joined(tubes, 5, 0, 0, 1, 1, 1001, 5));
@@ -252,6 +255,15 @@ public final class ImageTest {
         due("37: a ninth time", x.restore(), FULL);
         due("37: the tape is empty, too", x.end(1), false);
         dueImage("37: the roll stays", x, ALL);
+        x = all();
+        feed(x, 0, 20);
+        due("37: a pass alone", x.restore(), 0);
+        due("37: what the roll had is not in the next one", x.count(4, 0), 0);
+        feed(x, 1, 0, 1, 0, 0, 11, 0, 1, 1);
+        due("37: two acts", x.restore(), 2);
+        due("37: no passes of rolls before", x.count(3, 0), 0);
+        due("37: one rule", x.count(4, 0), 1);
+        due("37: known on day 0", x.due(0, 0, 0, 0), 1);
         BoilerRoll y = new BoilerRoll();
         for (int i = 0; i < 8; i++) {
             due("37: empty, time " + i, y.restore(), 0);
