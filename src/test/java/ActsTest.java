@@ -430,6 +430,9 @@ public final class ActsTest {
         x.undo();
         told(x, "16: tubes in place of tubes of many", x.part(0, 2, 1, 1, 1, 1), 0);
         told(x, "16: they are 1", x.plug(0, 0, 2, 10), RANGE);
+        x.sheet(0, 2);
+        told(x, "16: of one spot", x.measure(0, 0, 10), 1);
+        x.undo();
         told(x, "16: a valve's number", x.valve(0, 9, 9, 10), 0);
         x.pass(11);
         x.valve(0, 9, 9, 10);
