@@ -75,14 +75,6 @@ public final class ActsTest {
         due("2: the vessel stands", x.count(1, 0), 1);
         told(x, "2: pass(40000)", x.pass(40000), 40000);
         told(x, "2: pass(40000) again", x.pass(40000), 40000);
-        BoilerRoll y = new BoilerRoll();
-        for (int i = 0; i < 4000; i++) {
-            y.pass(7);
-        }
-        due("2: 4000 passes", y.count(3, 0), 4000);
-        told(y, "2: one more of a wrong day", y.pass(6), RANGE);
-        told(y, "2: one more", y.pass(7), FULL);
-        due("2: none more", y.count(3, 0), 4000);
     }
 
     private static void vessel() {
@@ -478,29 +470,6 @@ public final class ActsTest {
         due("18: what -1", x.count(-1, 0), NONE);
     }
 
-    private static void fullOfActs() {
-        BoilerRoll x = begun();
-        x.valve(0, 5, 5, 100);
-        while (x.count(2, 0) < 2000) {
-            x.rule(0, 5, 5);
-        }
-        x.sheet(0, 1);
-        told(x, "3: FULL", x.vessel(0, 1, 0, 0), FULL);
-        told(x, "4: FULL", x.part(0, 0, 1, 1, 1, 1), FULL);
-        told(x, "5: FULL", x.shape(0, 0, 1, 0, 1), FULL);
-        told(x, "8: FULL", x.measure(0, 0, 100), FULL);
-        due("8: FULL, the sheet stays", x.entry(0, 1), true);
-        told(x, "9: FULL", x.patch(0, 0, 1, 1, 1, 100), FULL);
-        told(x, "10: FULL", x.plate(0, 0, 1, 100), FULL);
-        told(x, "11: FULL", x.plug(0, 1, 0, 100), FULL);
-        told(x, "12: FULL", x.valve(0, 1, 1, 100), FULL);
-        told(x, "13: FULL", x.set(0, 0, 1, 100), FULL);
-        told(x, "14: FULL", x.paper(0, 0, 0, 0, 100), FULL);
-        told(x, "15: FULL", x.rule(0, 1, 1), FULL);
-        told(x, "15: a wrong one", x.rule(0, 0, 1), RANGE);
-        told(x, "2: a pass() is no act", x.pass(101), 101);
-    }
-
     public static void main(String[] args) {
         aNewObject();
         pass();
@@ -515,7 +484,6 @@ public final class ActsTest {
         papersAndRules();
         undo();
         statusAndCount();
-        fullOfActs();
         System.out.println(wrong == 0 ? "all answers are as due" : wrong + " answers are not as due");
         if (wrong != 0) {
             System.exit(1);

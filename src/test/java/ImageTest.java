@@ -115,18 +115,6 @@ public final class ImageTest {
         due("37: their number", x.count(3, 0), 4);
         due("37: today", x.count(0, 0), 9);
         due("35: the tape is empty", x.end(1), false);
-        for (int i = 1; i <= 8000; i++) {
-            if (x.feed(1, 1, 1, 1, 1) != 5 * i) {
-                due("34: feed " + i, 0, 5 * i);
-            }
-        }
-        due("34: above 40000", x.feed(1, 1, 1, 1, 1), NONE);
-        due("34: none came", x.end(40001), false);
-        due("34: 40000 stay", x.end(40000), true);
-        due("35: 39996", x.end(39996), true);
-        due("34: 40001 would be too many", x.feed(1, 1, 1, 1, 1), NONE);
-        due("35: 39995", x.end(39995), true);
-        due("34: 40000", x.feed(1, 1, 1, 1, 1), 40000);
         due("36: the image in place of it", x.again(), 8);
         due("36: it is no longer", x.end(9), false);
         due("36: nor shorter", x.end(8), true);

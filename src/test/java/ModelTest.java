@@ -7,8 +7,11 @@ import java.util.List;
  * each question answered from the acts alone, one day at a time.
  */
 public final class ModelTest {
-    private static final int RUNS = 150;
-    private static final int CALLS = 505;
+    private static final int RUNS = 500;
+    /** Behind its 512th call what a roll answers is free. */
+    private static final int CALLS = 512;
+    /** No step makes more calls of the roll. */
+    private static final int CALLS_OF_A_STEP = 20;
     private static final int[] LENGTHS = {2, 5, 7, 6, 16, 7, 5, 5, 5, 5, 6, 4};
 
     /** An act, or a pass, as it stands in the image. */
@@ -711,6 +714,7 @@ public final class ModelTest {
     // ---- runs
 
     private static int wrong = 0;
+    private static int used = 0;
     private static long seed = 1;
     /** How often why() answered 0 .. 7, 8 (with a part), 9, 10, NONE; until() NONE, this day, a later one; when() so. */
     private static final int[] answers = new int[18];
@@ -738,7 +742,9 @@ public final class ModelTest {
         return way == 8 ? any(Integer.MIN_VALUE, Integer.MAX_VALUE) : any(least, most);
     }
 
+    /** One call of the roll. */
     private static void due(int run, int call, String told, long got, long want) {
+        used++;
         if (got != want) {
             wrong++;
             if (wrong < 40) {
@@ -959,8 +965,9 @@ public final class ModelTest {
     private static void imageCheck(int run, int call, BoilerRoll x, Model m) {
         List<Integer> image = m.image();
         due(run, call, "image()", x.image(), image.size());
-        for (int i = -1; i <= image.size(); i++) {
-            due(run, call, "imageAt(" + i + ")", x.imageAt(i), i < 0 || i == image.size() ? 0 : image.get(i));
+        int first = near(0, image.size()) - 6;
+        for (int i = first; i < first + 12; i++) {
+            due(run, call, "imageAt(" + i + ")", x.imageAt(i), i < 0 || i >= image.size() ? 0 : image.get(i));
         }
     }
 
@@ -994,9 +1001,17 @@ public final class ModelTest {
             BoilerRoll x = new BoilerRoll();
             Model m = new Model();
             int pace = run % 4 == 0 ? 4 : run % 4 == 1 ? 40 : run % 4 == 2 ? 400 : 3000;
-            for (int call = 0; call < CALLS && wrong == 0; call++) {
+            used = 0;
+            for (int call = 0; used < CALLS - CALLS_OF_A_STEP && wrong == 0; call++) {
+                int before = used;
                 step(run, call, x, m, pace);
-                due(run, call, "status()", x.status(), m.status);
+                if (any(0, 2) == 0) {
+                    due(run, call, "status()", x.status(), m.status);
+                }
+                if (used - before > CALLS_OF_A_STEP) {
+                    wrong++;
+                    System.out.println("run " + run + ", call " + call + ": more calls than a step may make");
+                }
             }
         }
         System.out.println("asked: " + Arrays.toString(answers));
