@@ -6,8 +6,8 @@ import java.util.Arrays;
  * fired, until when, and what bounds it first; acts taken back, the roll as a row of numbers and
  * gone on from it.
  *
- * <p>The image is the only thing that is kept of the acts: what a query asks is read out of it anew,
- * so that an act that is taken back leaves nothing behind.
+ * <p>Acts are kept as the image alone, with the place in it and the day of entry of each: what a query
+ * asks is read out of it anew, so that an act that is taken back leaves nothing behind.
  */
 public final class BoilerRoll {
     public static final int NONE = -1;
@@ -302,6 +302,7 @@ public final class BoilerRoll {
     }
 
     private PartView partOn(int vessel, int part, int day, int known) {
+        // not by opened(): with it, calls would go nine deep
         return asked(vessel, day, known) && view.open(roll, vessel, day, known) ? view.partAt(part) : null;
     }
 

@@ -56,10 +56,12 @@ public final class LanguageTest {
         none(code, "2", "::");
         none(code, "2", "\\)\\s*->");
         none(code, "2", "[=(,]\\s*\\w+\\s*->");
+        none(code, "3", "\\b(Long|Short|Byte|Character|Boolean|Double|Float|Object|Map|Set)\\b");
         none(code, "6", "\\b(finally|synchronized|assert)\\b");
+        // the document names no exception
+        none(code, "6", "\\b(throw|throws|try|catch)\\b");
         none(code, "6", "\\b(Throwable|Error|NullPointerException|ArrayIndexOutOfBoundsException|ClassCastException)\\b");
         none(code, "6", "\\b(NegativeArraySizeException|ArrayStoreException|StackOverflowError|OutOfMemoryError)\\b");
-        none(code, "6", "catch \\((Exception|final Exception)\\b");
         none(code, "6", "\\b(hashCode|getMessage|printStackTrace)\\(");
         none(code, "9", "while \\(true\\)|for \\(;;\\)");
         none(code, "13", "\\b(Random|Thread|Runtime|nanoTime|currentTimeMillis)\\b");
